@@ -53,9 +53,9 @@ public final class BehaviorRunner {
 
     private final Text typed = new Text();
     private final Text output = new Text();
-    private final Board board = new Board();
-    private final Ledger ledger = new Ledger();
-    private final Walker walker = new Walker(board, ledger);
+    private final Walker walker = new Walker();
+    private final Board board = walker.board;
+    private final Ledger ledger = walker.ledger;
     private final Snapshot saved = new Snapshot();
     private final Snapshot aside = new Snapshot();
     private Tree tree = new Tree();
@@ -364,7 +364,6 @@ public final class BehaviorRunner {
     /** A node of a tree, with its place in it. */
     private static final class Node {
         private final int index;
-        private final Node before;
         private final Clause clause = new Clause();
         private final Clause end = new Clause();
         private final Life life = new Life();
@@ -372,6 +371,7 @@ public final class BehaviorRunner {
         private int number = 0;
         private int depth = 1;
         private int children = 0;
+        private Node before = null;
         private Node parent = null;
         private Node firstChild = null;
         private Node lastChild = null;
@@ -379,16 +379,16 @@ public final class BehaviorRunner {
         // The node with the greatest index in the subtree that begins here.
         private Node lastBelow = null;
 
-        Node(int index, Node before) {
+        Node(int index) {
             this.index = index;
-            this.before = before;
         }
 
-        void reset(int newKind, Node above) {
+        void reset(int newKind, Node above, Node former) {
             kind = newKind;
             number = 0;
             depth = above == null ? 1 : above.depth + 1;
             children = 0;
+            before = former;
             parent = above;
             firstChild = null;
             lastChild = null;
@@ -437,10 +437,8 @@ public final class BehaviorRunner {
         private int size = 0;
 
         Tree() {
-            Node before = null;
             for (int i = 0; i < nodes.length; i++) {
-                nodes[i] = new Node(i, before);
-                before = nodes[i];
+                nodes[i] = new Node(i);
             }
         }
 
@@ -454,8 +452,8 @@ public final class BehaviorRunner {
                 return null;
             }
             Node node = nodes[size];
+            node.reset(kind, above, nodeAt(size - 1));
             size++;
-            node.reset(kind, above);
             if (above != null) {
                 above.adopt(node);
             }
@@ -843,13 +841,8 @@ public final class BehaviorRunner {
 
     /** Performs ticks, visit by visit, and aborts. */
     private static final class Walker {
-        private final Board board;
-        private final Ledger ledger;
-
-        Walker(Board board, Ledger ledger) {
-            this.board = board;
-            this.ledger = ledger;
-        }
+        private final Board board = new Board();
+        private final Ledger ledger = new Ledger();
 
         /** Begins a tick or goes on with the suspended one, and returns its result or SUSPENDED. */
         int perform(Node root, int budget) {

@@ -4,7 +4,9 @@ final class TextTest {
         append();
         readErrors();
         readLimits();
+        everyNodeAddsDepth();
         readReplaces();
+        eachTreeBeginsAfresh();
         failedReadChangesNothing();
         everyKindIsRead();
         writeGivesTheSame();
@@ -169,6 +171,15 @@ final class TextTest {
         return text.toString();
     }
 
+    private static void everyNodeAddsDepth() {
+        for (String one : new String[] {"!", "r9", "t1", "w0", "l7", "g7>99", "s(", "f(", "S(", "F(", "p0("}) {
+            String close = one.endsWith("(") ? ")" : "";
+            reads(one + "!!!!!!!!a0" + close, 10);
+            fails(one + "!!!!!!!!!a0" + close, one.length() + 9);
+            fails("!!!!!!!!!" + one + "a0" + close, one.length() + 9);
+        }
+    }
+
     private static void readReplaces() {
         BehaviorRunner x = Check.with("s(=0:4,l1s(=1:3,a5~2:9))");
         x.set(7, -3);
@@ -199,6 +210,38 @@ final class TextTest {
         Check.due("node 1 of the smaller tree", x.node(1, 0), Check.NONE);
         Check.due("children of the smaller tree", x.node(0, 2), 0);
         Check.due("child of the smaller tree", x.child(0, 0), Check.NONE);
+    }
+
+    /** Some trees one after another: the last one is as if it were the only one. */
+    private static void eachTreeBeginsAfresh() {
+        String[] texts = {"p3(a30:1~1:2,l3=3:4,x0~2:1,!a9)", "s(a1,a0,r3a0,f(x0,a2~0+1))", "a0", "S(l1a4,x1)", "f(x0,p1(x0,x0))"};
+        for (String first : texts) {
+            for (String second : texts) {
+                for (String third : texts) {
+                    BehaviorRunner x = new BehaviorRunner();
+                    use(x, first);
+                    use(x, second);
+                    Check.read(x, third);
+                    BehaviorRunner y = Check.with(third);
+                    String order = first + " " + second + " " + third;
+                    Check.due("write of " + order, x.write(), third.length());
+                    Check.due("written of " + order, Check.written(x), third);
+                    Check.due("tick of " + order, x.tick(3), y.tick(3));
+                    Check.due("state of " + order, Check.state(x), Check.state(y));
+                }
+            }
+        }
+    }
+
+    private static void use(BehaviorRunner x, String text) {
+        Check.read(x, text);
+        x.run(2);
+        x.abort();
+        x.run(9);
+        x.tick(3);
+        for (int key = 0; key < 4; key++) {
+            x.set(key, 0);
+        }
     }
 
     private static void failedReadChangesNothing() {

@@ -13,8 +13,14 @@ final class Check {
 
     private static int wrong = 0;
     private static int answers = 0;
+    private static String sentence = "";
 
     private Check() {
+    }
+
+    /** Names the sentence of the document by which the next answers are due; a wrong answer is told with it. */
+    static void sentence(String words) {
+        sentence = "[" + words + "] ";
     }
 
     /** Notes an answer that is not the one that is due. */
@@ -22,7 +28,7 @@ final class Check {
         answers++;
         if (got != want) {
             wrong++;
-            System.out.println(what + " answered " + got + ", due is " + want);
+            System.out.println(sentence + what + " answered " + got + ", due is " + want);
         }
     }
 
@@ -30,7 +36,7 @@ final class Check {
         answers++;
         if (!got.equals(want)) {
             wrong++;
-            System.out.println(what + " answered \"" + got + "\", due is \"" + want + "\"");
+            System.out.println(sentence + what + " answered \"" + got + "\", due is \"" + want + "\"");
         }
     }
 
@@ -66,6 +72,13 @@ final class Check {
         if (nodes < 1) {
             due("readTree of " + text, nodes, 1);
         }
+        return runner;
+    }
+
+    /** A new runner with a tree, after some ticks with enough budget. */
+    static BehaviorRunner after(String text, int ticks) {
+        BehaviorRunner runner = with(text);
+        ticks(runner, ticks);
         return runner;
     }
 
@@ -107,6 +120,33 @@ final class Check {
         return text.toString();
     }
 
+    /** The global values, with spaces between. */
+    static String globals(BehaviorRunner runner) {
+        StringBuilder text = new StringBuilder();
+        for (int key = 0; key <= 7; key++) {
+            text.append(key == 0 ? "" : " ").append(runner.value(-1, key));
+        }
+        return text.toString();
+    }
+
+    /** The nodes whose visits have not ended, with spaces between. */
+    static String underWay(BehaviorRunner runner) {
+        StringBuilder text = new StringBuilder();
+        for (int i = 0; runner.underWay(i) != NONE; i++) {
+            text.append(i == 0 ? "" : " ").append(runner.underWay(i));
+        }
+        return text.toString();
+    }
+
+    /** A node several times, with commas between, as the children of a list. */
+    static String list(String node, int times) {
+        StringBuilder text = new StringBuilder();
+        for (int i = 0; i < times; i++) {
+            text.append(i == 0 ? "" : ",").append(node);
+        }
+        return text.toString();
+    }
+
     /**
      * Everything that can be asked of a runner without changing it, but for the typed and written texts.
      * This takes some 210 calls for ten nodes: an object has 512.
@@ -116,16 +156,11 @@ final class Check {
         for (int what = 0; what <= 9; what++) {
             text.append(runner.count(what)).append(' ');
         }
-        for (int key = 0; key <= 7; key++) {
-            text.append(runner.value(-1, key)).append(' ');
-        }
+        text.append('|').append(globals(runner));
         for (int what = 0; what <= 11; what++) {
             text.append('|').append(nodes(runner, what));
         }
-        text.append('|').append(runner.pending()).append('|');
-        for (int i = 0; runner.underWay(i) != NONE; i++) {
-            text.append(runner.underWay(i)).append(' ');
-        }
+        text.append('|').append(runner.pending()).append('|').append(underWay(runner));
         return text.append('|').append(trace(runner)).toString();
     }
 }

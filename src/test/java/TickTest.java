@@ -170,8 +170,8 @@ final class TickTest {
 
     private static void lookingAheadChangesNothing() {
         for (int ticks = 0; ticks < 30; ticks++) {
+            String before = Check.state(afterShortTicks(ticks));
             BehaviorRunner x = afterShortTicks(ticks);
-            String before = Check.state(x);
             x.foresee();
             Check.due("state after foresee", Check.state(x), before);
             BehaviorRunner y = afterShortTicks(ticks);

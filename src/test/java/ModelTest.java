@@ -2,10 +2,14 @@ import java.util.ArrayList;
 import java.util.List;
 import java.util.Random;
 
-/** Promises 3 to 20: random trees and random calls, each answer compared with the model's. */
+/**
+ * Promises 3 to 20: random trees and random calls, each answer compared with the model's. Every third tree is one of
+ * the edges, where numbers, keys, values and budgets are the least and the greatest ones and those beside them.
+ */
 final class ModelTest {
     private static final String LETTERS = "ax?=sfSFp!rtgwl";
-    private static final int TREES = 3000;
+    private static final int TREES = 4500;
+    private static final int[] EDGES_OF_VALUES = {-999, -998, -900, -99, -1, 0, 1, 99, 900, 998, 999};
 
     // The seed is fixed, so that each run makes the same trees and calls.
     private static final Random random = new Random(20);
@@ -16,9 +20,11 @@ final class ModelTest {
     private static BehaviorRunner runner;
     private static Model model;
     private static String story;
+    private static boolean edges;
 
     public static void main(String[] args) {
         for (int i = 0; i < TREES; i++) {
+            edges = i % 3 == 0;
             makeTree();
             runner = new BehaviorRunner();
             model = new Model(nodes);
@@ -79,7 +85,14 @@ final class ModelTest {
         }
     }
 
+    private static int oneOf(int... numbers) {
+        return numbers[random.nextInt(numbers.length)];
+    }
+
     private static int numberOf(int kind) {
+        if (edges) {
+            return edgeNumberOf(kind);
+        }
         switch (kind) {
             case 0: case 1: return random.nextInt(random.nextInt(4) == 0 ? 10 : 3);
             case 8: return random.nextInt(4);
@@ -90,8 +103,24 @@ final class ModelTest {
         }
     }
 
+    private static int edgeNumberOf(int kind) {
+        switch (kind) {
+            case 0: case 1: return oneOf(0, 0, 1, 8, 9);
+            case 8: return oneOf(0, 1, 2, 3, 8, 9);
+            case 10: case 11: return oneOf(1, 2, 8, 9);
+            case 13: return oneOf(0, 1, 8, 9);
+            case 14: return oneOf(0, 7);
+            default: return -1;
+        }
+    }
+
+    private static int anyKey() {
+        return edges ? oneOf(0, 7) : random.nextInt(3);
+    }
+
     private static int[] clause(String signs) {
-        int[] clause = {random.nextInt(3), signs.charAt(random.nextInt(3)), random.nextInt(random.nextInt(9) == 0 ? 100 : 4)};
+        int number = edges ? oneOf(0, 1, 98, 99) : random.nextInt(random.nextInt(9) == 0 ? 100 : 4);
+        int[] clause = {anyKey(), signs.charAt(random.nextInt(3)), number};
         text.append(clause[0]).append((char) clause[1]).append(clause[2]);
         return clause;
     }
@@ -102,10 +131,11 @@ final class ModelTest {
     }
 
     private static void change() {
-        int budget = 1 + random.nextInt(random.nextInt(3) == 0 ? 30 : 5);
+        int budget = edges ? oneOf(1, 2, 3, 23, 24, 998, 999) : 1 + random.nextInt(random.nextInt(3) == 0 ? 30 : 5);
+        int ticks = edges ? oneOf(1, 2, 49, 50) : budget;
         switch (random.nextInt(16)) {
             case 0:
-                same("run(" + budget + ")", runner.run(budget), model.run(budget));
+                same("run(" + ticks + ")", runner.run(ticks), model.run(ticks));
                 break;
             case 1:
                 if (random.nextInt(3) == 0) {
@@ -119,8 +149,9 @@ final class ModelTest {
                 same("restore()", runner.restore(), model.restore());
                 break;
             case 4: case 5: case 6:
-                int key = random.nextInt(3);
+                int key = anyKey();
                 int value = random.nextInt(9) == 0 ? random.nextInt(1999) - 999 : random.nextInt(5);
+                value = edges ? oneOf(EDGES_OF_VALUES) : value;
                 same("set(" + key + ", " + value + ")", runner.set(key, value), model.set(key, value));
                 break;
             default:
@@ -132,7 +163,7 @@ final class ModelTest {
     private static void ask() {
         int node = random.nextInt(nodes.size());
         int what = random.nextInt(12);
-        int key = random.nextInt(3);
+        int key = anyKey();
         switch (random.nextInt(8)) {
             case 0:
                 same("foresee()", runner.foresee(), model.foresee());
@@ -166,7 +197,7 @@ final class ModelTest {
         for (int what = 0; what <= 9; what++) {
             Check.due(story + " count " + what, runner.count(what), model.count(what));
         }
-        for (int key = 0; key < 3; key++) {
+        for (int key : edges ? new int[] {0, 7} : new int[] {0, 1, 2}) {
             Check.due(story + " value " + key, runner.value(-1, key), model.value(-1, key));
         }
         for (int i = 0; i < nodes.size(); i++) {

@@ -269,6 +269,13 @@ final class TickBoundsTest {
         Check.due("what was visited stays", y.foresee(), Check.SUCCESS);
         y.set(1, 1);
         Check.due("what is still to be visited", y.foresee(), Check.FAILURE);
+        BehaviorRunner z = Check.with("S(?0=0,?1=0)");
+        z.tick(2);
+        z.set(0, 1);
+        Check.due("it is not begun again", z.foresee(), Check.SUCCESS);
+        Check.due("ticksToGo of it", z.ticksToGo(), 1);
+        Check.due("the rest", z.tick(1), Check.SUCCESS);
+        Check.due("foresee of the next one", z.foresee(), Check.FAILURE);
     }
 
     private static void foreseeChangesNothing() {

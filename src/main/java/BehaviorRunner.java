@@ -1,6 +1,7 @@
 /**
- * A runner of behavior trees: composites, decorators and leaves over a blackboard with scopes,
- * ticks under a budget that are suspended and resumed, ends that are run on every way out, and traces.
+ * A runner of behavior trees: composites, decorators and leaves over a blackboard with scopes, observers that
+ * abort what is running, ticks under a budget that are suspended and resumed, ends that are run on every way
+ * out, and traces.
  */
 public final class BehaviorRunner {
     public static final int NONE = -1001;
